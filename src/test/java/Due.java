@@ -1,0 +1,35 @@
+/** Counts the calls of one test whose answer is not the one that is due, and prints each. */
+final class Due {
+    static final long NONE = PartitionedProcedureStore.NONE;
+
+    private final String test;
+    private int wrong = 0;
+    private int seen = 0;
+
+    Due(String test) {
+        this.test = test;
+    }
+
+    void is(String call, long got, long want) {
+        seen++;
+        if (got != want) {
+            wrong++;
+            System.out.println(test + ": " + call + " answered " + got + ", due is " + want);
+        }
+    }
+
+    void holds(String what, boolean held) {
+        seen++;
+        if (!held) {
+            wrong++;
+            System.out.println(test + ": does not hold: " + what);
+        }
+    }
+
+    void end() {
+        System.out.println(test + ": " + seen + " answers looked at, " + wrong + " wrong");
+        if (wrong != 0 || seen == 0) {
+            System.exit(1);
+        }
+    }
+}
