@@ -164,7 +164,7 @@ public final class PartitionedProcedureStore {
         lastNumber++;
         underWayMarker = lastNumber;
         for (Site site : sites) {
-            site.forgetPart();
+            site.marked = false;
         }
         waitAtAllSites(new Task(lastNumber, NO_CLIENT, null, 0, 0, 0));
         return lastNumber;
@@ -430,15 +430,9 @@ public final class PartitionedProcedureStore {
             rowsLeft = size;
         }
 
-        void forgetPart() {
-            marked = false;
-            rowsLeft = 0;
-        }
-
         void restart() {
             queue.clear();
             stalled = false;
-            forgetPart();
         }
     }
 
@@ -572,7 +566,6 @@ public final class PartitionedProcedureStore {
             registers[1] = command.b;
             registers[2] = command.c;
             outputSize = 0;
-            fault = 0;
         }
 
         private void abort(int statement) {

@@ -208,6 +208,10 @@ public final class CommandTest {
         due.is("answer of a client that sent nothing", store.answer(2), PartitionedProcedureStore.FREE);
         store.step(0);
         due.is("an old flush is not enough", store.answer(0), PENDING);
+        store.flush();
+        store.invoke(0, Stores.PUT_ONE, 0, 3, 0);
+        store.flush();
+        due.is("the last command's end is not enough", store.answer(0), PENDING);
     }
 
     private static void outputTellsWhatIsThere() {

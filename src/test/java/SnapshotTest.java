@@ -48,6 +48,7 @@ public final class SnapshotTest {
         due.is("count(4)", store.count(4), 0);
         due.is("count(3)", store.count(3), 6);
         due.is("snapshot after one", store.snapshot(), 7);
+        due.is("scan before its mark", store.scan(0, 1), REFUSED);
     }
 
     private static void emptyPartsAreCopied() {
