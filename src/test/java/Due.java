@@ -3,6 +3,7 @@ final class Due {
     static final long NONE = PartitionedProcedureStore.NONE;
 
     private final String test;
+    private String sentence = "";
     private int wrong = 0;
     private int seen = 0;
 
@@ -10,11 +11,16 @@ final class Due {
         this.test = test;
     }
 
+    /** The words of the document that the answers looked at from here on rest on. */
+    void sentence(String words) {
+        sentence = " [" + words + "]";
+    }
+
     void is(String call, long got, long want) {
         seen++;
         if (got != want) {
             wrong++;
-            System.out.println(test + ": " + call + " answered " + got + ", due is " + want);
+            System.out.println(test + sentence + ": " + call + " answered " + got + ", due is " + want);
         }
     }
 
@@ -22,7 +28,7 @@ final class Due {
         seen++;
         if (!held) {
             wrong++;
-            System.out.println(test + ": does not hold: " + what);
+            System.out.println(test + sentence + ": does not hold: " + what);
         }
     }
 
