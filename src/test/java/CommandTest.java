@@ -27,7 +27,9 @@ public final class CommandTest {
         stepIsIdle();
         stepMarks();
         stepTakesInOrder();
+        abortedSingleIsDone();
         stepStallsUntilAllHaveCome();
+        comingAgainIsNoSecondSite();
         abortedMultiStallsNoSite();
         anySiteCanBeTheLast();
         oneSiteNeverStalls();
@@ -224,6 +226,18 @@ public final class CommandTest {
         due.is("step(1)", store.step(1), IDLE);
     }
 
+    private static void abortedSingleIsDone() {
+        due.sentence("A SINGLE command is next: it is done: RAN.");
+        PartitionedProcedureStore store = Stores.usual(2);
+        store.invoke(0, Stores.REMOVE_ONE, 1, 0, 0);
+        store.invoke(1, Stores.PUT_ONE, 1, 5, 0);
+        due.is("step(1), which aborts", store.step(1), RAN);
+        due.is("waiting(1)", store.waiting(1), 1);
+        due.is("row(1)", store.row(1), Due.NONE);
+        due.is("step(1)", store.step(1), RAN);
+        due.is("row(1)", store.row(1), 5);
+    }
+
     private static void stepStallsUntilAllHaveCome() {
         due.sentence("A MULTI command is done when the last site has come to it; until then a site that has come to it is STALLED.");
         PartitionedProcedureStore store = Stores.usual(3);
@@ -255,6 +269,20 @@ public final class CommandTest {
         due.is("step(0)", store.step(0), RAN);
         due.is("row(0)", store.row(0), 9);
         due.is("step(2)", store.step(2), IDLE);
+    }
+
+    private static void comingAgainIsNoSecondSite() {
+        due.sentence("A MULTI command is next: the site comes to it (or had come to it before)");
+        for (int partitions = 2; partitions <= 4; partitions++) {
+            PartitionedProcedureStore store = Stores.usual(partitions);
+            store.invoke(0, Stores.STORE_CELL, 0, 6, 0);
+            for (int time = 0; time < 5; time++) {
+                due.is("step(1) of " + partitions, store.step(1), STALLED);
+            }
+            due.is("replicated(0)", store.replicated(0), 0);
+            due.is("waiting(1)", store.waiting(1), 1);
+            due.is("count(5)", store.count(5), 1);
+        }
     }
 
     private static void abortedMultiStallsNoSite() {

@@ -19,6 +19,7 @@ public final class DraftTest {
         openRefusesADeployedProcedure();
         openBeginsWithoutStatements();
         openDropsTheDraft();
+        openDropsTheDraftsKind();
         refusedOpenKeepsTheDraft();
         addNeedsADraft();
         addRefusesOps();
@@ -163,6 +164,20 @@ public final class DraftTest {
         due.is("the dropped draft is not deployed", store.invoke(0, 0, 0, 0, 0), REFUSED);
         due.is("the last draft is", store.invoke(0, 1, 0, 0, 0), 1);
         due.is("and is MULTI", store.waiting(0) + store.waiting(1), 2);
+    }
+
+    private static void openDropsTheDraftsKind() {
+        due.sentence("Begins a draft of a procedure, without statements; a draft under way is dropped.");
+        PartitionedProcedureStore store = drafted(true);
+        due.is("open of a MULTI draft's procedure as SINGLE", store.open(0, false), DONE);
+        store.add(Stores.STORE, 0, 0, 0);
+        due.is("deploy of it with a STORE", store.deploy(), BAD);
+        store.open(0, true);
+        due.is("open of it as SINGLE", store.open(0, false), DONE);
+        addSets(store, 1);
+        due.is("deploy of it", store.deploy(), DONE);
+        store.invoke(0, 0, 0, 0, 0);
+        due.is("it is SINGLE", store.waiting(0) + store.waiting(1), 1);
     }
 
     private static void refusedOpenKeepsTheDraft() {
